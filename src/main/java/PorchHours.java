@@ -1449,7 +1449,7 @@ public final class PorchHours {
     private static final class Couples {
         private static final int FIVE = 5;
         private static final int ALL_FIVE = 31;
-        private static final int PAIRINGS = 3125;
+        private static final int PAIRINGS = 120;
 
         private final Row wishes;
         private final int[] asked = new int[FIVE];
@@ -1517,21 +1517,31 @@ public final class PorchHours {
         int settled() {
             int ways = 0;
             for (int number = 0; number < PAIRINGS; number++) {
-                if (pairUp(number) && isSettled()) ways++;
+                pairUp(number);
+                if (isSettled()) ways++;
             }
             return ways;
         }
 
-        /** Pairs by the five digits of a number to the base five; false if two share one. */
-        private boolean pairUp(int number) {
+        /** Each number below 120 tells by its parts how many that are still free each one passes over. */
+        private void pairUp(int number) {
             int taken = 0;
             int rest = number;
             for (int i = 0; i < FIVE; i++) {
-                pair[i] = rest % FIVE;
+                pair[i] = freeOne(taken, rest % (FIVE - i));
                 taken |= 1 << pair[i];
-                rest /= FIVE;
+                rest /= FIVE - i;
             }
-            return taken == ALL_FIVE;
+        }
+
+        private static int freeOne(int taken, int passedOver) {
+            int left = passedOver;
+            for (int one = 0; one < FIVE; one++) {
+                if ((taken >> one & 1) == 1) continue;
+                if (left == 0) return one;
+                left--;
+            }
+            return 0;
         }
 
         private boolean isSettled() {
@@ -1559,7 +1569,7 @@ public final class PorchHours {
         private final Told told;
         private final int[] sums = new int[SETS];
         private final int[] ofSets = new int[SETS];
-        private final long[][] seatings = new long[SETS][PLACES];
+        private final int[] seatings = new int[SETS * PLACES];
         private final int[] arrives = new int[MOST_PORCHES];
         private final int[] enemies = new int[PLACES];
         private final long[] climbs = new long[MOST_STEPS + 1];
@@ -1780,29 +1790,29 @@ public final class PorchHours {
             }
         }
 
-        /** Of 1 to 8: seatings[set][one] are the ways in which this set sits, this one behind the others. */
+        /** Of 1 to 8. The seatings of a set and one of it: the ways in which it sits, this one last. */
         int waysToSit(int n, boolean round) {
             if (!within(n, 1, PLACES)) return NONE;
             findEnemies(n);
             int all = (1 << n) - 1;
             for (int set = 1; set <= all; set++) {
-                for (int one = 0; one < n; one++) seatings[set][one] = seatBehind(set, one, n, round);
+                for (int one = 0; one < n; one++) seatings[set * PLACES + one] = seatBehind(set, one, n, round);
             }
-            long ways = 0;
+            int ways = 0;
             for (int one = 0; one < n; one++) {
                 boolean quarrel = round && (enemies[0] >> one & 1) == 1;
-                if (!quarrel) ways += seatings[all][one];
+                if (!quarrel) ways += seatings[all * PLACES + one];
             }
-            return (int) ways;
+            return ways;
         }
 
-        private long seatBehind(int set, int one, int n, boolean round) {
+        private int seatBehind(int set, int one, int n, boolean round) {
             if ((set >> one & 1) == 0) return 0;
             int others = set - (1 << one);
             if (others == 0) return round && one != 0 ? 0 : 1;
-            long ways = 0;
+            int ways = 0;
             for (int before = 0; before < n; before++) {
-                if ((enemies[one] >> before & 1) == 0) ways += seatings[others][before];
+                if ((enemies[one] >> before & 1) == 0) ways += seatings[others * PLACES + before];
             }
             return ways;
         }
