@@ -72,7 +72,10 @@ public final class FaceTest {
                 else due.is(f + " is final", Modifier.isFinal(f.getModifiers()), true);
             }
             due.is(c + " has some twenty fields", fields <= 20, true);
-            for (Method m : c.getDeclaredMethods()) due.is(m + " has seven parameters at most", m.getParameterCount() <= 7, true);
+            for (Method m : c.getDeclaredMethods()) {
+                due.is(m + " has seven parameters at most", m.getParameterCount() <= 7, true);
+                due.is(m + " has a name of the face", FACE.contains(" " + m.getName() + "("), false);
+            }
         }
     }
 

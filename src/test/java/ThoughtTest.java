@@ -8,6 +8,7 @@ public final class ThoughtTest {
     public static void main(String[] args) {
         wishes();
         matched();
+        longWooing();
         settled();
         chair();
         rocks();
@@ -37,7 +38,8 @@ public final class ThoughtTest {
         PorchHours x = new PorchHours();
         int[][] wrong = {{2, 0, 1234}, {-1, 0, 1234}, {0, 5, 1234}, {0, -1, 1234}, {0, 0, 1233}, {0, 0, 43211}, {0, 0, 53210},
             {0, 0, 12345}, {0, 0, 12340 + 100000}, {0, 0, -1234}, {0, 0, 0}, {0, 0, 234}, {0, 0, 56789}, {LEAST, 0, 1234},
-            {0, MOST, 1234}, {0, 0, LEAST}, {0, 0, MOST}, {1, 4, 101234}, {0, 0, 98760}};
+            {0, MOST, 1234}, {0, 0, LEAST}, {0, 0, MOST}, {1, 4, 101234}, {0, 0, 98760},
+            {0, 0, 321234}, {0, 0, 330234}, {0, 0, 1291234}};
         for (int[] w : wrong) due.is("18: wishes(" + w[0] + ", " + w[1] + ", " + w[2] + ")", x.wishes(w[0], w[1], w[2]), false);
         for (int i = 0; i < 5; i++) due.is("19: as at first", x.matched(0, i, 0), i);
         int[] right = {1234, 43210, 10234, 12340, 20413};
@@ -74,6 +76,19 @@ public final class ThoughtTest {
             due.is("19: whoever asks", x.matched(1, i, 1), 4 - i);
         }
         due.is("19: one way alone", x.matched(NONE, 0, 0), 1);
+    }
+
+    /** The last one who asks sets off seventeen askings, one giving way to the other. */
+    private static void longWooing() {
+        PorchHours x = new PorchHours();
+        int[] one = {42310, 31420, 14230, 21340, 42130};
+        int[] other = {4321, 4132, 10324, 23401, 31240};
+        for (int i = 0; i < 5; i++) due.is("18: wishes", x.wishes(0, i, one[i]) && x.wishes(1, i, other[i]), true);
+        int[] held = {4, 0, 1, 2, 3};
+        for (int i = 0; i < 5; i++) {
+            due.is("19: of side 1", x.matched(1, i, 0), held[i]);
+            due.is("19: of side 0", x.matched(0, held[i], 0), i);
+        }
     }
 
     private static void settled() {
