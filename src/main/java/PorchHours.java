@@ -1193,7 +1193,7 @@ public final class PorchHours {
     }
 
     /**
-     * What the law tells of a person and a porch. Its code stands the operands first: numbers as
+     * What the law tells of a person and a porch. Its code has the operands first: numbers as
      * they are, all else as its token's kind below 0.
      */
     private static final class Law {
