@@ -1832,8 +1832,7 @@ public final class PorchHours {
             int reached = 0;
             for (int i = 0; i < MOST_PORCHES; i++) {
                 if (arrives[i] != NONE) reached++;
-                boolean first = arrives[i] == arrives[last] && i < last;
-                if (arrives[i] > arrives[last] || first) last = i;
+                if (arrives[i] > arrives[last]) last = i;
             }
             if (what == 0) return last;
             return what == 1 ? arrives[last] : reached;

@@ -81,6 +81,13 @@ public final class MinuteEdgesTest {
             "act(0, 1, 0)", "state(7)", "LAW: speaks 0; => 1", "minutes(5) => 0", "look(8) => 7", "LAW: speaks 0-1; => 1",
             "minutes(5) => 0", "look(8) => 7", "LAW: speaks 1000; => 1", "minutes(5) => 10", "of(0, 4) => 5",
             "of(0, 5) => 5", "of(1, 4) => 5", "of(1, 5) => 5", "look(7) => 12", "LAW: speaks 9999; => 1", "minutes(1) => 2");
+        // who does not sit, and who sits far off, is not of those who heard it
+        run("(c) how many heard it on all PORCHES").does("porch(2, 0)", "porch(2, 0)", "porch(2, 0)", "person(1, 0)",
+            "person(0, 0)", "person(0, 0)", "person(0, 0)", "person(0, 0)", "STREET: porch 0 by 1 10; porch 0 by 2 11;",
+            "LAW: speaks 1000*tongue; hears 1000;", "act(0, 0, 0)", "minutes(1) => 1", "book(1, 4) => 0", "act(0, 1, 2)",
+            "minutes(1) => 1", "book(3, 4) => 0", "act(0, 2, 0)", "minutes(1) => 1", "book(5, 4) => 1", "act(0, 3, 1)",
+            "minutes(1) => 1", "book(7, 2) => 2", "book(7, 3) => 3", "book(7, 4) => 0", "book(8, 2) => 1", "book(8, 4) => 2",
+            "of(1, 5) => 0", "of(2, 5) => 2", "of(3, 5) => 1", "of(4, 5) => 0");
         run("(c) alone on a PORCH").does("porch(2, 0)", "person(9, 9)", "LAW: speaks 1000;", "minutes(3) => 0",
             "look(8) => 0", "act(0, 0, 0)", "minutes(3) => 3", "of(0, 5) => 0", "book(1, 4) => 0");
     }
@@ -289,6 +296,14 @@ public final class MinuteEdgesTest {
         run("all but the TAPE, fault()").does("porch(1, 0)", "LAW: spins => NONE", "image(true) => 1", "TAPE: spins 4;",
             "image(false) => 1", "fault(0) => 1", "fault(1) => 5", "end(8) => 1", "text(0) => 1", "porchOf(0, 5) => 4",
             "image(false) => 1", "fault(0) => 0", "fault(1) => NONE", "end(1) => 0", "porchOf(0, 5) => 1");
+        run("all that is and was told").does("porch(2, 7)", "person(3, 4)", "person(5, 6)", "set(0, 0, 8)", "set(1, 0, 1)",
+            "state(9)", "act(0, 1, 0)", "act(2, 0, 0)", "minutes(2)", "image(true) => 1", "set(2, 0, 0)", "set(3, 0, 0)",
+            "set(0, 0, 77)", "set(1, 0, NONE)", "act(1, 1, 0)", "act(3, 0, 55)", "act(2, 0, 0)", "minutes(60)", "state(1)",
+            "porch(6, 6)", "person(9, 9)", "image(false) => 1", "of(0, 0) => 3", "of(0, 1) => 4", "of(1, 0) => 5",
+            "of(1, 1) => 6", "of(1, 2) => 0", "of(1, 3) => 2", "porchOf(0, 0) => 2", "porchOf(0, 1) => 5",
+            "porchOf(0, 2) => 0", "porchOf(0, 3) => 1", "look(0) => 1", "look(1) => 2", "look(2) => 2", "look(3) => 0",
+            "look(4) => 1", "porch(1, 0) => 1", "porchOf(1, 2) => 0", "porchOf(1, 3) => NONE", "person(1, 1) => 2",
+            "of(2, 4) => 0", "of(2, 2) => NONE");
         run("of a full street, gone back to more than once").times(12, "porch(6, 99)").times(20, "person(9, 9)")
             .does("image(true) => 1").does("act(0, 19, 11)", "minutes(60)", "image(false) => 1", "look(0) => 12",
             "look(1) => 20", "of(19, 4) => 0", "act(0, 19, 11) => 1", "minutes(9)", "image(false) => 1", "look(2) => 0",

@@ -256,8 +256,10 @@ public final class ThoughtEdgesTest {
             "lamps(1, 1, 1, 13) => NONE", "lamps(MIN, 1, 1, 0) => NONE", "lamps(1, MAX, 1, 0) => NONE",
             "lamps(1, 1, MIN, 0) => NONE", "lamps(1, 1, 1, MAX) => NONE", "lamps(1, 1, 1, 0) => 0", "lamps(1, 1, 1, 1) => 0",
             "lamps(1, 1, 1, 2) => NONE", "lamps(1, 1, 1, 12) => NONE", "lamps(12, 12, 12, 12) => 0",
-            "lamps(12, 12, 12, 0) => 0", "lamps(12, 12, 12, 6) => NONE", "lamps(12, 1, 12, 11) => 1",
-            "lamps(12, 11, 1, 1) => 1", "lamps(12, 11, 1, 2) => 3", "lamps(1, 12, 12, 1) => 0", "lamps(12, 7, 5, 6) => 10");
+            "lamps(12, 12, 12, 0) => 0", "lamps(12, 12, 12, 6) => NONE", "lamps(12, 12, 12, 1) => NONE",
+            "lamps(12, 12, 12, 11) => NONE", "lamps(12, 5, 12, 1) => NONE", "lamps(12, 12, 5, 1) => NONE",
+            "lamps(12, 5, 12, 5) => 1", "lamps(12, 12, 5, 7) => 1", "lamps(12, 1, 12, 11) => 1", "lamps(12, 11, 1, 1) => 1",
+            "lamps(12, 11, 1, 2) => 3", "lamps(1, 12, 12, 1) => 0", "lamps(12, 7, 5, 6) => 10");
     }
 
     private static void hooks() {
