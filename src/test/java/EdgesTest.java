@@ -28,6 +28,8 @@ public final class EdgesTest {
         tokens();
         firstFaultByPlace();
         openNine();
+        openEightAndMore();
+        fullTape();
         heldNumbers();
         wrappedNumbers();
         defaults();
@@ -373,6 +375,37 @@ public final class EdgesTest {
         run(sentence).does(when + "(".repeat(8) + " => NONE", "fault(0) => 1", at + 21, when + "(".repeat(8) + ") => NONE",
             "fault(0) => 1", at + 21, when + "(".repeat(9) + " => NONE", "fault(0) => 3", at + 21,
             when + "(".repeat(8) + "1/0 => NONE", "fault(0) => 2", at + 23);
+    }
+
+    /** In each of the eight that are open, and outside, an "or" and an "and" wait: the innermost row tells how all is. */
+    private static void openEightAndMore() {
+        String[] opens = {"1=2or1=1and(", "1=2or 1=1and not(", "1=1 and(1=2 or "};
+        int[] most = {8, 4, 8};
+        for (int k = 0; k < opens.length; k++) {
+            for (int depth = 0; depth <= most[k]; depth++) {
+                for (int so = 0; so <= 1; so++) {
+                    int due = k == 1 ? (so + depth) % 2 : so;
+                    String inner = "1=2or 1=1and 7-3*2/1=9+8-8*" + (so == 1 ? 2 : 3);
+                    run("( and not that are open, with what waits in them").does("porch(1, 1)", "person(0, 0)",
+                        "LAW: hears 1 when " + opens[k].repeat(depth) + inner + ")".repeat(depth) + ";hears 0; => 2",
+                        "hears(0, 0) => " + due);
+                }
+            }
+        }
+    }
+
+    /** As many tokens as there are bytes, and laws as long as the TAPE, told again and again. */
+    private static void fullTape() {
+        String sentence = "a text of 400 bytes";
+        run(sentence).does("LAW: " + ";".repeat(400) + " => NONE", "fault(0) => 1", "fault(1) => 0",
+            "STREET: " + " ".repeat(399) + "; => NONE", "fault(1) => 399", "LAW: spins" + "(".repeat(395) + " => NONE",
+            "fault(1) => 5", "CALLS: " + " ".repeat(400) + " => 0");
+        String sum = "spins9" + "-1".repeat(98) + "+1".repeat(98) + "; ";
+        String when = "spins 7 when 0" + "+1".repeat(190) + "=190; ";
+        due.is(sentence, sum.length() == 400 && when.length() == 400, true);
+        Run r = run(sentence + ", again and again").does("porch(1, 1)");
+        for (int i = 0; i < 3; i++) r.does("LAW: " + sum + " => 1", "porchOf(0, 5) => 9", "LAW: " + when + " => 1",
+            "porchOf(0, 5) => 7");
     }
 
     private static void heldNumbers() {

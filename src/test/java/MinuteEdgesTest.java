@@ -144,6 +144,10 @@ public final class MinuteEdgesTest {
         run("(e) behind (d): who gets up in this minute is not there").does(two).does("act(0, 0, 0)",
             "CALLS: person 1 at 0 on 0 for 2; => 1", "act(3, 0, 2)", "minutes(2)", "look(6) => 0", "undo()", "undo()",
             "undo()", "act(3, 0, 1)", "minutes(1)", "look(6) => 2");
+        run("(e) filled to 0, it does not go out by burning").does(two).does("act(0, 0, 0)", "act(0, 1, 0)", "act(3, 0, 5)",
+            "act(3, 0, 0)", "minutes(1)", "look(6) => 0", "porchOf(0, 1) => 0");
+        run("(e) told no oil by EVENINGS, it does not go out by burning").does(two).does("act(0, 0, 0)", "act(0, 1, 0)",
+            "act(3, 0, 5)", "EVENINGS: in 0 oil 0 0;", "minutes(1)", "look(6) => 0", "porchOf(0, 1) => 0");
         run("(e) at minute 59 all SIT still").does(two).does("minutes(59)", "act(0, 0, 0)", "act(0, 1, 0)", "act(3, 0, 1)",
             "minutes(1)", "look(5) => 0", "look(6) => 2", "book(2, 0) => 0", "book(2, 1) => 59", "book(2, 2) => 3");
     }
@@ -154,6 +158,12 @@ public final class MinuteEdgesTest {
             "porchOf(1, 2) => 2", "LAW: spins 0;", "minutes(9)", "porchOf(0, 2) => 1", "LAW: spins 9;", "minutes(1)",
             "porchOf(0, 2) => 10", "LAW: spins 10;", "minutes(1)", "porchOf(0, 2) => 19", "LAW: spins 0-1;", "minutes(1)",
             "porchOf(0, 2) => 19");
+        // of what is a PERSON's, spins is told nothing
+        run("tongue, ears, stayed, said, heard: the PERSON's (spins: 0)").does("porch(2, 9)", "porch(2, 0)", "person(9, 9)",
+            "person(9, 9)", "LAW: speaks 1000; spins tongue+ears+stayed+said+heard;", "act(0, 0, 0)", "act(0, 1, 0)",
+            "minutes(3) => 6", "porchOf(1, 5) => 0", "porchOf(1, 2) => 0", "goes(9, 2) => 0",
+            "LAW: spins tongue+ears+stayed+said+heard+lamp+sitting+minute+evening+cobweb;", "porchOf(1, 5) => 3",
+            "porchOf(0, 5) => 9", "minutes(1)", "porchOf(1, 2) => 3", "goes(1, 2) => 10", "minutes(1)", "porchOf(1, 2) => 10");
         run("(f) of who got up in this minute").does("porch(2, 0)", "person(0, 0)", "CALLS: person 0 at 0 on 0 for 1;",
             "minutes(1)", "porchOf(0, 2) => 1");
     }
