@@ -206,6 +206,10 @@ public final class ThoughtEdgesTest {
             "seated(8, 0) => 40320", "seated(8, 1) => 5040");
         run("couples of 0 .. n - 1 alone are asked").does("quarrel(2, 3)", "seated(3, 0) => 6", "seated(3, 1) => 2",
             "seated(4, 0) => 12", "seated(4, 1) => 2", "quarrel(7, 6)", "seated(7, 0) => 3600", "seated(8, 0) => 23040");
+        // who quarrels with several has only the others beside him, whichever of a couple was told first
+        run("no such sit side by side").does("quarrel(0, 1)", "quarrel(0, 2)", "seated(3, 0) => 0", "seated(4, 0) => 4",
+            "seated(4, 1) => 0", "quarrel(3, 0)", "seated(4, 0) => 0", "seated(5, 0) => 12", "quarrel(NONE, 0)",
+            "quarrel(1, 0)", "quarrel(2, 0)", "seated(3, 0) => 0", "seated(4, 0) => 4", "seated(5, 1) => 4");
         run("first and last one side by side, too").does("quarrel(0, 1)", "seated(1, 0) => 1", "seated(1, 1) => 1",
             "seated(2, 0) => 0", "seated(2, 1) => 0", "seated(3, 0) => 2", "seated(3, 1) => 0", "quarrel(NONE, 0)",
             "quarrel(1, 2)", "seated(3, 0) => 2", "seated(3, 1) => 0");
