@@ -1,3 +1,6 @@
+import java.util.ArrayList;
+import java.util.List;
+
 /**
  * The document's 512 calls, PORCHES and TEXTS, sentence by sentence: of each that names an edge the last value that can be,
  * the first that can't on either side, empty and full, and what wraps. What is refused is looked at in RefusedTest, too.
@@ -26,6 +29,8 @@ public final class EdgesTest {
         lawNumbers();
         sixteenLines();
         tokens();
+        keywordsInTheirPlaces();
+        behindTheEnd();
         firstFaultByPlace();
         openNine();
         openEightAndMore();
@@ -345,6 +350,68 @@ public final class EdgesTest {
         }
         run(sentence).does("LAW: SPINS 7; => NONE", "fault(1) => 0", "LAW: spin s 7; => NONE", "fault(1) => 0",
             "LAW: spins 1 2; => NONE", "fault(1) => 8", "LAW: spins 12 34; => NONE", "fault(1) => 9");
+    }
+
+    private static final String[] KEYWORDS = {"speaks", "hears", "spins", "when", "or", "and", "not", "tongue", "ears",
+        "sitting", "stayed", "lamp", "cobweb", "minute", "said", "heard", "evening", "person", "at", "on", "for", "in", "oil",
+        "sweep", "rain", "master", "porch", "by"};
+
+    /** At the place of # these words can stand (some ask for other things behind them), and no other one. */
+    private static void onlyThese(int k, String text, String... can) {
+        String[] texts = {"LAW: ", "CALLS: ", "EVENINGS: ", "STREET: "};
+        List<String> these = List.of(can);
+        int place = text.indexOf('#');
+        for (String word : KEYWORDS) {
+            Run r = fullStreet("KEYWORDS in their places: " + word + " in " + text).does(texts[k] + text.replace("#", word));
+            if (these.contains(word)) due.is("what can stand: " + word + " in " + text, r.answer("fault(1)") != place, true);
+            else r.does("fault(0) => 1", "fault(1) => " + place, "look(" + (9 + k) + ") => 0");
+        }
+        for (String word : can) {
+            for (int cut = 1; cut < word.length(); cut++) number(k, text, word.substring(0, cut), 1);
+            number(k, text, word + "s", 1);
+            number(k, text, "s" + word, 1);
+            number(k, text, word.substring(0, word.length() - 1) + "z", 1);
+        }
+    }
+
+    private static void keywordsInTheirPlaces() {
+        String[] nouns = {"tongue", "ears", "sitting", "stayed", "lamp", "cobweb", "minute", "said", "heard", "evening"};
+        onlyThese(0, "# 1;", "speaks", "hears", "spins");
+        onlyThese(0, "spins 1;# 1;", "speaks", "hears", "spins");
+        onlyThese(0, "spins #;", nouns);
+        onlyThese(0, "spins 1*#;", nouns);
+        onlyThese(0, "spins 1/#;");
+        onlyThese(0, "spins 1 # 1=1;", "when");
+        onlyThese(0, "spins 1 when 1=1 # 1=1;", "and", "or");
+        onlyThese(0, "spins 1 when # 1=1;", join(nouns, "not"));
+        onlyThese(0, "spins 1 when (# 1=1);", join(nouns, "not"));
+        onlyThese(0, "spins 1 when 1=#;", nouns);
+        onlyThese(1, "# 0 at 0 on 0 for 1;", "person");
+        onlyThese(1, "person 0 # 0 on 0 for 1;", "at");
+        onlyThese(1, "person 0 at 0 # 0 for 1;", "on");
+        onlyThese(1, "person 0 at 0 on 0 # 1;", "for");
+        onlyThese(2, "# 0 rain 0;", "in");
+        onlyThese(2, "in 0 # 0;", "oil", "sweep", "rain", "master");
+        onlyThese(2, "in 0 oil # 0;");
+        onlyThese(3, "# 0 by 1 1;", "porch");
+        onlyThese(3, "porch 0 # 1 1;", "by");
+        onlyThese(3, "porch 0 by # 1;");
+    }
+
+    private static String[] join(String[] words, String word) {
+        List<String> all = new ArrayList<>(List.of(words));
+        all.add(word);
+        return all.toArray(new String[0]);
+    }
+
+    /** What was cut off is no more read, though it would make another token of the last one. */
+    private static void behindTheEnd() {
+        run("The TAPE has its first n bytes alone").does("TAPE: spins 12345;", "end(10) => 1", "text(0) => NONE",
+            "fault(0) => 1", "fault(1) => 10", "TAPE: spins 1 when 1=1;", "end(11) => 1", "text(0) => NONE", "fault(1) => 8",
+            "TAPE: spins 1;", "end(7) => 1", "text(0) => NONE", "fault(1) => 7", "TAPE: spins 1;spins 2;", "end(8) => 1",
+            "text(0) => 1", "TAPE: spins 1;spins 2;", "end(0) => 1", "text(0) => 0");
+        run("The TAPE, empty then").does("LAW: speaks 9999; => 1", "LAW: spins => NONE", "fault(1) => 5",
+            "LAW: sp => NONE", "fault(1) => 0", "LAW: speaks => NONE", "fault(1) => 6");
     }
 
     private static void firstFaultByPlace() {

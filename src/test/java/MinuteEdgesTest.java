@@ -15,6 +15,7 @@ public final class MinuteEdgesTest {
         lampGoesOut();
         spins();
         turnOfTheEvening();
+        fullStreet();
         byHand();
         book150();
         bookLines();
@@ -173,6 +174,18 @@ public final class MinuteEdgesTest {
             "minutes(58)", "act(0, 0, 0)", "minutes(1)", "act(0, 1, 0)", "look(2) => 59", "look(5) => 3", "of(0, 3) => 1",
             "minutes(1)", "look(2) => 0", "look(3) => 1", "look(5) => 0", "of(0, 3) => 0", "porchOf(0, 2) => 58",
             "porchOf(0, 4) => 0");
+    }
+
+    /** Twenty sit on four porches of five; the last one speaks, is heard, gets wet, is accepted as the first one is. */
+    private static void fullStreet() {
+        Run r = run("twelve PORCHES, twenty PERSONS").times(12, "porch(5, 0)").times(20, "person(0, 0)")
+            .does("LAW: speaks 1000;", "STREET: porch 11 by 10 10; porch 9 by 10 11;");
+        for (int i = 0; i < 20; i++) r.does("act(0, " + i + ", " + (8 + i / 5) + ") => 1");
+        r.does("look(5) => 1048575", "porchOf(11, 4) => 1015808", "set(1, 11, 19) => 1", "act(3, 11, 1) => 1",
+            "minutes(1) => 20", "look(6) => 491520", "of(18, 6) => 19", "of(19, 6) => NONE", "of(19, 4) => 1", "of(19, 5) => 4",
+            "of(0, 5) => 4", "set(0, 11, 51)", "EVENINGS: in 0 rain 1; => 1", "minutes(1) => 15", "look(5) => 32767",
+            "of(19, 2) => NONE", "set(1, 8, 19)", "act(0, 19, 8) => 0", "act(1, 0, 0)", "act(0, 19, 8) => 1", "act(3, 8, 1)",
+            "minutes(1) => 15", "look(6) => 491550", "minutes(57) => 855", "look(5) => 0", "of(19, 3) => 0", "look(3) => 1");
     }
 
     private static void byHand() {

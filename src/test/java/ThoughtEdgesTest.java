@@ -64,7 +64,11 @@ public final class ThoughtEdgesTest {
             "chair(31, 0) => NONE", "chair(-2, 0) => NONE", "chair(1, 1) => NONE", "chair(1, -1) => NONE",
             "chair(30, 30) => NONE", "chair(30, -1) => NONE", "chair(MIN, 0) => NONE", "chair(MAX, 0) => NONE",
             "chair(5, MAX) => NONE", "chair(5, MIN) => NONE", "rocks(1) => 0", "chair(1, 0) => 1", "chair(30, 29) => 2",
-            "rocks(0) => 29");
+            "rocks(0) => 29", "rocks(1) => 2", "chair(NONE, 0)", "chair(1, 0)", "rocks(0) => 0", "rocks(1) => 1");
+        // of 4 and 6 forward at 9, 21, 33: the strides are of 12, not of 24
+        run("the first minute of strides that share a part").does("chair(4, 1)", "chair(6, 3)", "rocks(0) => 9",
+            "chair(9, 3)", "rocks(0) => 21", "chair(NONE, 0)", "chair(6, 1)", "chair(10, 5)", "chair(15, 10)",
+            "rocks(0) => 25", "chair(30, 25)", "rocks(0) => 25", "chair(30, 24)", "rocks(0) => NONE", "rocks(1) => 4");
         run("up to 5 told chairs").does("chair(2, 1) => 1", "chair(2, 1) => 2", "chair(2, 1) => 3", "chair(2, 1) => 4",
             "rocks(1) => 4", "chair(2, 1) => 5", "chair(2, 0) => NONE", "rocks(0) => 1", "rocks(1) => 5",
             "chair(0, 0) => NONE", "chair(NONE, 0) => 0", "rocks(0) => 0", "rocks(1) => 0", "chair(2, 0) => 1",
