@@ -438,6 +438,11 @@ public final class EdgesTest {
             when + "not(".repeat(4) + "1=1" + ")".repeat(4) + "; => 1",
             when + "not(".repeat(4) + "not 1=1" + ")".repeat(4) + "; => NONE", "fault(0) => 3", at + 29,
             when + "(1=1)and ".repeat(9) + "not 1=2; => 1", when + "not 1=2 or ".repeat(9) + "(1=1); => 1");
+        // what was joined is no more open
+        run(sentence).does(when + "1=1 and 1=1 or ".repeat(3) + "(".repeat(8) + "1=1" + ")".repeat(8) + "; => 1",
+            when + "1=1 and 1=1 or ".repeat(3) + "(".repeat(9) + " => NONE", "fault(0) => 3", at + (13 + 45 + 8),
+            when + "(1=1)and(1=1)or ".repeat(3) + "not ".repeat(9) + " => NONE", "fault(0) => 3", at + (13 + 48 + 32),
+            when + "((1=1)or 1=1 and ".repeat(4) + "(".repeat(5) + " => NONE", "fault(0) => 3", at + (13 + 68 + 4));
         // of the text's end behind eight, and what can't stand behind them
         run(sentence).does(when + "(".repeat(8) + " => NONE", "fault(0) => 1", at + 21, when + "(".repeat(8) + ") => NONE",
             "fault(0) => 1", at + 21, when + "(".repeat(9) + " => NONE", "fault(0) => 3", at + 21,

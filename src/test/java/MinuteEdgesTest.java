@@ -72,6 +72,13 @@ public final class MinuteEdgesTest {
             "LAW: speaks 1000;", "EVENINGS: in 0 rain 59; in 1 rain 0; => 2", "minutes(58)", "act(0, 0, 0)",
             "minutes(1) => 1", "minutes(1) => 0", "act(0, 0, 0) => 1", "minutes(1) => 0", "look(5) => 0",
             "act(0, 0, 0) => 1", "minutes(1) => 1");
+        // what is told of PORCH 5, or of PERSON 5, is no rain at MINUTE 5
+        String[] dry = {"oil 5 5", "sweep 5", "master 5 5", "oil 0 5", "master 0 5"};
+        for (String d : dry) {
+            run("(b) rain alone: " + d).times(6, "porch(1, 0)").times(6, "person(0, 0)").does("set(0, 1, 99)",
+                "EVENINGS: in 0 " + d + "; => 1", "minutes(5)", "act(0, 0, 1) => 1", "minutes(1)", "of(0, 2) => 1",
+                "EVENINGS: in 0 " + d + "; in 0 rain 6; => 2", "minutes(1)", "of(0, 2) => NONE");
+        }
         run("(b) who is called at that MINUTE gets up, too").does("porch(1, 0)", "person(0, 0)", "set(0, 0, 51)",
             "EVENINGS: in 0 rain 0; => 1", "CALLS: person 0 at 0 on 0 for 60; => 1", "minutes(1)", "look(5) => 0",
             "look(7) => 1");
@@ -100,6 +107,17 @@ public final class MinuteEdgesTest {
                 "act(0, 0, 0)", "act(0, 1, 1)", "LAW: speaks 1000*tongue; hears 1000;", "STREET: porch 1 by 0 " + feet + ";",
                 "minutes(3) => 3", "of(1, 5) => " + (feet <= 10 ? 3 : 0), "goes(2, 1) => " + (feet <= 10 ? 5 : 0),
                 "book(2, 2) => " + (feet <= 10 ? 2 : 1));
+        }
+        // a line to a PORCH of a lesser, or a greater number is no line to this one
+        String[] lines = {"0 by 2", "2 by 0", "0 by 1", "1 by 0", "1 by 2", "2 by 1"};
+        for (String line : lines) {
+            Run r = run("feet to PORCH p by STREET: " + line).times(3, "porch(1, 0)").does("STREET: porch " + line + " 7; => 1");
+            for (int p = 0; p < 3; p++) {
+                for (int q = 0; q < 3; q++) {
+                    boolean there = p != q && line.indexOf((char) ('0' + p)) >= 0 && line.indexOf((char) ('0' + q)) >= 0;
+                    r.does("porchOf(" + p + ", " + (10 + q) + ") => " + (there ? 7 : -1));
+                }
+            }
         }
         run("(c) of several between two the shortest").does("porch(1, 0)", "porch(1, 0)", "person(1, 0)", "person(0, 0)",
             "act(0, 0, 0)", "act(0, 1, 1)", "LAW: speaks 1000*tongue; hears 1000;",

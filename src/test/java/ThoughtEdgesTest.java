@@ -54,6 +54,17 @@ public final class ThoughtEdgesTest {
             "matched(1, 5, 0) => NONE", "matched(0, 0, 2) => NONE", "matched(0, 0, -1) => NONE", "matched(2, 0, 0) => NONE",
             "matched(-2, 0, 0) => NONE", "matched(MIN, 0, 0) => NONE", "matched(MAX, 0, 0) => NONE",
             "matched(0, MIN, 0) => NONE", "matched(1, 0, MAX) => NONE");
+        // 0 has 1, 1 has 2, 2 has 0: whose number is asked, and whose is told, makes a difference
+        for (int side = 0; side <= 1; side++) {
+            Run ring = run("the one of i of side s, if side a asks; the wishes of side " + side).does(
+                "wishes(" + side + ", 0, 10234)", "wishes(" + side + ", 1, 20134)", "wishes(" + side + ", 2, 1234)",
+                "matched(NONE, 0, 0) => 1");
+            int[] dear = {1, 2, 0, 3, 4};
+            for (int i = 0; i < 5; i++) {
+                for (int a = 0; a < 2; a++) ring.does("matched(" + side + ", " + i + ", " + a + ") => " + dear[i],
+                    "matched(" + (1 - side) + ", " + dear[i] + ", " + a + ") => " + i);
+            }
+        }
         // a wish that can't be told leaves the one that was
         run("NONE if one can't be").does("wishes(0, 0, 10234) => 1", "matched(0, 0, 0) => 1", "wishes(0, 0, 11111) => 0",
             "matched(0, 0, 0) => 1", "wishes(0, 0, 1234) => 1", "matched(0, 0, 0) => 0");
@@ -161,6 +172,9 @@ public final class ThoughtEdgesTest {
         run("WAYS of n (0 .. 15)").does("talks(10) => 1", "talks(11) => 1", "talks(24) => 2674440", "talks(25) => 9694845",
             "talks(26) => NONE", "talks(9) => NONE", "talks(2) => NONE", "talks(-1) => NONE", "talks(MIN) => NONE",
             "talks(MAX) => NONE");
+        run("NONE for another what, where there is a FIRST").does("talk(1)", "talk(2)", "talk(2)", "talks(0) => 1",
+            "talks(1) => 2", "talks(2) => NONE", "talks(9) => NONE", "talks(26) => NONE", "talks(-1) => NONE",
+            "talks(MIN) => NONE", "talks(MAX) => NONE");
     }
 
     private static void half() {
@@ -176,6 +190,15 @@ public final class ThoughtEdgesTest {
             "halves(MIN) => NONE", "halves(MAX) => NONE", "half(2, 0)", "halves(0) => 0", "halves(1) => 0", "half(0, 0)",
             "halves(1) => 1", "half(1, 0)", "halves(1) => 0", "half(2, 0)", "halves(1) => 2", "half(2, 0)",
             "halves(1) => 0");
+        // a word that is one less, or one more, is another one, whichever of the two tells it
+        for (int which = 0; which <= 1; which++) {
+            for (int word = 4; word <= 6; word++) {
+                run("told by talk " + which + ": 5, heard: " + word).does("half(" + which + ", 5)", "half(2, " + word + ")",
+                    "halves(0) => " + (word == 5 ? 1 : 0), "halves(1) => " + (word == 5 ? 1 : 0));
+                run("told by both: 5 and 5, heard: 5 and " + word).does("half(0, 5)", "half(1, 5)", "half(2, 5)",
+                    "half(2, " + word + ")", "halves(0) => " + (word == 5 ? 1 : 0), "halves(1) => " + (word == 5 ? 2 : 0));
+            }
+        }
         run("heard as long as can be").times(12, "half(0, 5)").times(12, "half(1, 5)").times(24, "half(2, 5)")
             .does("halves(0) => 1", "halves(1) => 2704156");
     }
